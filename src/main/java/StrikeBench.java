@@ -39,16 +39,16 @@ public final class StrikeBench {
     private boolean atOnceIsNow;
 
     public StrikeBench() {
-        tape = new byte[TAPE_MOST];
         tables = new Table[TABLES];
         for (int i = 0; i < TABLES; i++) {
             tables[i] = new Table();
         }
         now = tables[0];
         faultPlace = NONE;
-        parser = new Parser(tape);
-        field = new Field();
-        ahead = new Lookahead(field);
+        parser = new Parser();
+        tape = parser.bytes;
+        ahead = new Lookahead();
+        field = ahead.field;
         atOnce = new AtOnce();
     }
 
@@ -88,10 +88,7 @@ public final class StrikeBench {
     }
 
     public int strike(int juror) throws NoSuchElementException, IllegalStateException {
-        if (now.placeInRow(juror) == NONE) {
-            noSuch++;
-            throw new NoSuchElementException("no such one in the row");
-        }
+        needInRow(juror);
         if (!now.mayStrike(juror)) {
             badState++;
             throw new IllegalStateException("he can't be struck now");
@@ -208,27 +205,18 @@ public final class StrikeBench {
     }
 
     public int turn(int i) throws NoSuchElementException {
-        if (i < 0 || i >= now.turnsLeft) {
-            noSuch++;
-            throw new NoSuchElementException("not so many turns are left");
-        }
+        needTurn(i);
         return now.turnBits >> i & 1;
     }
 
     public int worth(int side) throws IllegalArgumentException {
-        if (!isSide(side)) {
-            badArgument++;
-            throw new IllegalArgumentException("no such side");
-        }
+        needSide(side);
         lookAhead();
         return field.endWorth(side, 0);
     }
 
     public int value(int side) throws IllegalArgumentException {
-        if (!isSide(side)) {
-            badArgument++;
-            throw new IllegalArgumentException("no such side");
-        }
+        needSide(side);
         lookAhead();
         return ahead.values[side][0];
     }
@@ -244,16 +232,12 @@ public final class StrikeBench {
             throw new IllegalArgumentException("below 0");
         }
         lookAhead();
-        if (i >= ahead.turns) {
-            return NOBODY;
-        }
         return ahead.whom(i, ahead.struckAfter(i, 0));
     }
 
     public int cost(int juror) throws NoSuchElementException, IllegalStateException {
-        if (juror != NONE && now.placeInRow(juror) == NONE) {
-            noSuch++;
-            throw new NoSuchElementException("no such one in the row");
+        if (juror != NONE) {
+            needInRow(juror);
         }
         if (juror == NONE ? now.turnsLeft == 0 : !now.mayStrike(juror)) {
             badState++;
@@ -270,36 +254,21 @@ public final class StrikeBench {
     }
 
     public int more(int side, boolean first) throws IllegalArgumentException {
-        if (!isSide(side)) {
-            badArgument++;
-            throw new IllegalArgumentException("no such side");
-        }
+        needSide(side);
         int bits = first ? now.turnBits << 1 | side : now.turnBits | side << now.turnsLeft;
         return valueIf(side, NONE, now.turnsLeft + 1, bits);
     }
 
     public int other(int side, int i) throws NoSuchElementException, IllegalArgumentException {
-        if (i < 0 || i >= now.turnsLeft) {
-            noSuch++;
-            throw new NoSuchElementException("not so many turns are left");
-        }
-        if (!isSide(side)) {
-            badArgument++;
-            throw new IllegalArgumentException("no such side");
-        }
+        needTurn(i);
+        needSide(side);
         return valueIf(side, NONE, now.turnsLeft, now.turnBits ^ 1 << i);
     }
 
     public int without(int side, int juror)
             throws NoSuchElementException, IllegalArgumentException, IllegalStateException {
-        if (now.placeInRow(juror) == NONE) {
-            noSuch++;
-            throw new NoSuchElementException("no such one in the row");
-        }
-        if (!isSide(side)) {
-            badArgument++;
-            throw new IllegalArgumentException("no such side");
-        }
+        needInRow(juror);
+        needSide(side);
         if (now.isStruck(juror)) {
             badState++;
             throw new IllegalStateException("he is struck");
@@ -308,9 +277,10 @@ public final class StrikeBench {
     }
 
     public int plain(int side, int bits) throws IllegalArgumentException {
-        if (!isSide(side) || bits < 0 || bits > 3) {
+        needSide(side);
+        if (bits < 0 || bits > 3) {
             badArgument++;
-            throw new IllegalArgumentException("no such side, or no such sides");
+            throw new IllegalArgumentException("no such sides");
         }
         lookAhead();
         return field.endWorth(side, ahead.struckAfter(ahead.turns, bits));
@@ -371,8 +341,25 @@ public final class StrikeBench {
         }
     }
 
-    private static boolean isSide(int side) {
-        return side == 0 || side == 1;
+    private void needSide(int side) {
+        if (side != 0 && side != 1) {
+            badArgument++;
+            throw new IllegalArgumentException("no such side");
+        }
+    }
+
+    private void needInRow(int juror) {
+        if (now.placeInRow(juror) == NONE) {
+            noSuch++;
+            throw new NoSuchElementException("no such one in the row");
+        }
+    }
+
+    private void needTurn(int i) {
+        if (i < 0 || i >= now.turnsLeft) {
+            noSuch++;
+            throw new NoSuchElementException("not so many turns are left");
+        }
     }
 
     private static boolean isRule(int what, int n) {
@@ -695,8 +682,8 @@ public final class StrikeBench {
         int faultKind;
         int faultAt;
 
-        Parser(byte[] tape) {
-            bytes = tape;
+        Parser() {
+            bytes = new byte[TAPE_MOST];
             causeOfFirst = new Clause();
             causeOfSecond = new Clause();
             bench = new Clause();
@@ -849,15 +836,13 @@ public final class StrikeBench {
             return sound;
         }
 
+        /** A ninth side is a fault as anything else is that stands where the line must end. */
         boolean readTurns(Table table) {
-            for (int i = 0; i <= TURNS_MOST; i++) {
+            for (int i = 0; i < TURNS_MOST; i++) {
                 skipBlanks();
                 int side = sideHere();
                 if (side == NONE) {
                     return true;
-                }
-                if (i == TURNS_MOST) {
-                    return fail(MISPLACED, at);
                 }
                 at++;
                 table.turnBits |= side << i;
@@ -1117,8 +1102,8 @@ public final class StrikeBench {
         int turns;
         int bits;
 
-        Lookahead(Field looked) {
-            field = looked;
+        Lookahead() {
+            field = new Field();
             values = new int[2][SETS_OF_ROW];
             passed = new int[2];
             acts = new byte[(TURNS_MOST + 1) * SETS_OF_ROW];

@@ -137,7 +137,18 @@ public final class PromisesTest {
         due("3: what was told stays", 5, () -> x.told(3));
         due("3: spare stays", 1, () -> x.told(5));
         x.strike(0);
+        x.rule(2, 1);
+        for (int i = 0; i < 10; i++) {
+            // As often as there are tables, so that each has been written before.
+            Bench.tell(x, FIVE_AB + "box;tales 1 1 20 0;cause a 1=1;cause b 1=1;bench 1=1;grant 1;");
+        }
         due("3: anew", 1, () -> Bench.tell(x, "juror 1 2 20 0;"));
+        due("3: no tales", 0, () -> x.told(1));
+        due("3: nobody is excused", 0, () -> x.told(2));
+        due("3: nothing of the causes", 4, () -> Bench.tell(x, jurors(3) + "juror 2 2 20 0;turns bb;"));
+        due("3: nor of the bench", 0, () -> Bench.tell(x, "juror 1 2 20 0;cause b kin=0;"));
+        due("3: nor of the grant", 0, () -> Bench.tell(x, jurors(3) + "cause b kin=0;"));
+        due("3: for one who has no row", 1, () -> Bench.tell(x, "juror 1 2 20 0;"));
         due("3: nobody is struck", 0, () -> x.told(8));
         due("3: seats without", 2, () -> x.told(4));
         due("3: spare without", 0, () -> x.told(5));
@@ -172,6 +183,13 @@ public final class PromisesTest {
             full.append(' ');
         }
         reads(full.append(';').toString(), 1);
+        full.setLength(497);
+        fails(full.append("box").toString(), 1, 497);
+        fails(" ".repeat(497) + "box", 1, 500);
+        fails(" ".repeat(494) + "seats2", 1, 500);
+        fails(" ".repeat(495) + "cause", 1, 500);
+        fails(" ".repeat(494) + "turnsa", 1, 494);
+        fails(" ".repeat(493) + "turns a", 1, 500);
     }
 
     private static void faultsOfSigns() {
@@ -190,6 +208,12 @@ public final class PromisesTest {
         fails("juror 1 1 20 0", 1, 14);
         fails("juror 1 1 20 0 0;", 1, 15);
         fails("juror 1 1 -20 0;", 1, 10);
+        fails("juror 1 1 20 -0;", 1, 13);
+        fails("spare -0;", 1, 6);
+        fails("grant -0;", 1, 6);
+        fails("boxz;", 1, 0);
+        fails("box{;", 1, 3);
+        fails("box`;", 1, 3);
         fails("juror -;", 1, 7);
         fails("juror - -1 1 20 0;", 1, 8);
         fails("juror --1 1 20 0;", 1, 7);
@@ -236,6 +260,8 @@ public final class PromisesTest {
 
     private static void faultsOfNumbers() {
         fails("juror 51 1 20 0;", 2, 6);
+        fails("juror -51 1 20 0;", 2, 6);
+        fails("juror 1 51 20 0;", 2, 8);
         fails("juror 1 -51 20 0;", 2, 8);
         fails("juror 1 -  51 20 0;", 2, 8);
         fails("juror 1 1 17 0;", 2, 10);
@@ -445,18 +471,37 @@ public final class PromisesTest {
 
         StrikeBench y = Bench.of(FIVE);
         for (int i = 1; i <= 12; i++) {
-            y.rule(0, 1 + i % 6);
+            y.order(4, i);
             due("9: kept behind " + i, Math.min(8, i + 1), () -> y.told(11));
         }
         for (int left = 7; left >= 0; left--) {
             due("9: eight deep", left, y::undo);
         }
         due("9: not a ninth", NONE, y::undo);
-        due("9: what the fourth told", 5, () -> y.told(4));
-        y.rule(0, 6);
+        due("9: the fourth's order", 1, () -> y.turn(2));
+        due("9: and no other bit", 0, () -> y.turn(0) + y.turn(1) + y.turn(3));
+        y.order(1, 0);
         due("9: on from there", 1, () -> y.told(11));
         due("9: back there", 0, y::undo);
-        due("9: seats are the fourth's", 5, () -> y.told(4));
+        due("9: the fourth's again", 4, () -> y.told(7));
+        for (int i = 0; i < 30; i++) {
+            y.order(5, i);
+        }
+        for (int i = 0; i < 3; i++) {
+            y.undo();
+        }
+        y.order(8, 255);
+        y.pass();
+        due("9: what was taken back is no act", 7, () -> y.told(11));
+        for (int bits = 26; bits >= 22; bits--) {
+            y.undo();
+            if (bits == 26) {
+                y.undo();
+            }
+            int want = bits;
+            due("9: order " + bits, want,
+                    () -> y.turn(0) | y.turn(1) << 1 | y.turn(2) << 2 | y.turn(3) << 3 | y.turn(4) << 4);
+        }
 
         StrikeBench z = Bench.of(FIVE_AB);
         Bench.tell(z, "seats 9;");
@@ -646,9 +691,10 @@ public final class PromisesTest {
         }
         x.strike(1);
         due("18: struck", BAD_STATE, () -> x.cost(1));
-        // Side 1 has 2 * (-3 + 3) + 1 here, and 2 * (3 + 1) - 7 behind striking 0.
+        // Side 1 has 2 * (-3 + 3) + 1 here, and as much, 2 * (3 + 1) - 7, behind striking 0.
         due("18: to side 1", 0, () -> x.cost(0));
         due("18: of striking 2", 1 - (2 * (-3 + 1) - 7), () -> x.cost(2));
+        due("18: of passing, to side 1", 0, () -> x.cost(NONE));
         x.pass();
         due("18: no turn is left", BAD_STATE, () -> x.cost(2));
         due("18: nor for passing", BAD_STATE, () -> x.cost(NONE));
@@ -657,6 +703,8 @@ public final class PromisesTest {
         due("18: not in the box", BAD_STATE, () -> box.cost(2));
         StrikeBench number = Bench.of("juror 1 1 20 1;juror 1 1 20 0;tales 5 5 30 0;seats 1;turns a;cause b kin=1;");
         due("18: by number", 8, () -> number.cost(2));
+        StrikeBench second = Bench.of("juror 9 1 20 0;juror 2 7 20 0;seats 1;turns b;");
+        due("18: passing costs side 1", 12, () -> second.cost(NONE));
     }
 
     private static void states() {
@@ -839,11 +887,57 @@ public final class PromisesTest {
         x.undo();
         x.text(0);
         due("27: no such", 2, () -> x.status(0));
+        everyRefusalCounts();
         due("27: arguments", 1, () -> x.status(1));
         due("27: states", 3, () -> x.status(2));
         due("27: 3", NONE, () -> x.status(3));
         due("27: below 0", NONE, () -> x.status(-1));
         due("27: no refusal itself", 1, () -> x.status(1));
+    }
+
+    private static void counts(String what, int kind, StrikeBench x, Bench.Call refused) {
+        int[] before = {x.status(0), x.status(1), x.status(2)};
+        Bench.answer(refused);
+        for (int k = 0; k < 3; k++) {
+            int of = k;
+            due("27: " + what + " counts for " + k, before[k] + (k == kind ? 1 : 0), () -> x.status(of));
+        }
+    }
+
+    private static void everyRefusalCounts() {
+        StrikeBench x = Bench.of(FIVE_AB);
+        counts("strike", 0, x, () -> x.strike(5));
+        counts("juror", 0, x, () -> x.juror(5, 0));
+        counts("turn", 0, x, () -> x.turn(2));
+        counts("cost", 0, x, () -> x.cost(5));
+        counts("other", 0, x, () -> x.other(0, 2));
+        counts("without", 0, x, () -> x.without(0, 5));
+        counts("text", 1, x, () -> x.text(1));
+        counts("rule", 1, x, () -> x.rule(3, 0));
+        counts("order", 1, x, () -> x.order(9, 0));
+        counts("told", 1, x, () -> x.told(12));
+        counts("juror, what", 1, x, () -> x.juror(0, 8));
+        counts("seat", 1, x, () -> x.seat(-1, true));
+        counts("worth", 1, x, () -> x.worth(2));
+        counts("value", 1, x, () -> x.value(2));
+        counts("line", 1, x, () -> x.line(-1));
+        counts("more", 1, x, () -> x.more(2, true));
+        counts("other, side", 1, x, () -> x.other(2, 0));
+        counts("without, side", 1, x, () -> x.without(2, 0));
+        counts("plain", 1, x, () -> x.plain(0, 4));
+        counts("once", 1, x, () -> x.once(5));
+        counts("count", 1, x, () -> x.count(3, 0));
+        x.strike(0);
+        counts("strike, struck", 2, x, () -> x.strike(0));
+        counts("cost, struck", 2, x, () -> x.cost(0));
+        counts("without, struck", 2, x, () -> x.without(0, 0));
+        x.pass();
+        counts("pass", 2, x, x::pass);
+        counts("cost of passing", 2, x, () -> x.cost(NONE));
+        x.order(4, 0);
+        counts("once, four turns", 2, x, () -> x.once(0));
+        counts("best", NONE, x, x::best);
+        counts("status", NONE, x, () -> x.status(7));
     }
 
     private static void firstOfSeveralExceptions() {

@@ -205,7 +205,9 @@ public final class SlowBenchTest {
             int bits = below(10) == 0 ? random.nextInt() : below(1 << Math.max(0, Math.min(n, 8)));
             same("order " + n + " " + bits, () -> bench.order(n, bits), () -> slow.order(n, bits));
         } else {
-            same("undo", bench::undo, slow::undo);
+            for (int i = below(12) == 0 ? from(1, 9) : 1; i > 0; i--) {
+                same("undo", bench::undo, slow::undo);
+            }
         }
     }
 
