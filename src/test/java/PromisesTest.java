@@ -1,4 +1,4 @@
-/** Promise by promise: ordinary inputs, the edges that the document names, wrong inputs; worked out by hand. */
+/** Promise by promise: ordinary inputs, the edges that the document names, wrong inputs; worked out by hand or from the shared runs. */
 public final class PromisesTest {
     private static final int NONE = StrikeBench.NONE;
     private static final int NOBODY = StrikeBench.NOBODY;
