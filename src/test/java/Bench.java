@@ -11,6 +11,7 @@ final class Bench {
 
     private static int wrong = 0;
     private static int asked = 0;
+    private static String heading = "";
 
     private Bench() {
     }
@@ -44,7 +45,7 @@ final class Bench {
         long got = answer(call);
         if (got != want) {
             wrong++;
-            System.out.println(what + " answered " + name(got) + ", due is " + name(want));
+            System.out.println(heading + what + " answered " + name(got) + ", due is " + name(want));
         }
     }
 
@@ -52,8 +53,22 @@ final class Bench {
         asked++;
         if (!isSo) {
             wrong++;
-            System.out.println(what);
+            System.out.println(heading + what);
         }
+    }
+
+    /** The test of one sentence of the document; what is wrong in it is told with the sentence. */
+    static void sentence(String words, Runnable test) {
+        heading = "[" + words + "] ";
+        int before = asked;
+        try {
+            test.run();
+        } catch (RuntimeException e) {
+            wrong++;
+            System.out.println(heading + "ended by " + e);
+        }
+        holds("nothing was asked", asked > before);
+        heading = "";
     }
 
     static int howManyWrong() {
@@ -92,9 +107,26 @@ final class Bench {
         return bench.text(text.length());
     }
 
+    /** Reads without a fault, with so many in the row. */
+    static void reads(String text, int row) {
+        StrikeBench bench = new StrikeBench();
+        due("{" + text + "}", row, () -> tell(bench, text));
+        due("fault() of {" + text + "}", StrikeBench.NONE, bench::fault);
+    }
+
+    static void fails(String text, int kind, int place) {
+        StrikeBench bench = new StrikeBench();
+        due("{" + text + "}", kind - 10, () -> tell(bench, text));
+        due("fault() of {" + text + "}", place, bench::fault);
+    }
+
     static StrikeBench of(String text) {
         StrikeBench bench = new StrikeBench();
-        tell(bench, text);
+        int row = tell(bench, text);
+        if (row < 0) {
+            wrong++;
+            System.out.println(heading + "{" + text + "} has fault " + (row + 10));
+        }
         return bench;
     }
 }
