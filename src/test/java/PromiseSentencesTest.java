@@ -442,7 +442,10 @@ public final class PromiseSentencesTest {
         x.feed(-1, -1, -1, -1, -1);
         due("with a tape", NONE, x::fault);
         Bench.answer(() -> x.text(-1));
+        Bench.answer(() -> x.text(-7));
         due("behind a text() that threw", NONE, x::fault);
+        Bench.answer(() -> x.text(21));
+        due("behind another that threw", NONE, x::fault);
     }
 
     private static void strikes() {

@@ -369,6 +369,7 @@ public final class TextSentencesTest {
         holds("1=2", false);
         holds("1=2 or 1=1", true);
         holds("1=1 or 1=2", true);
+        holds("1=1 or 1=1", true);
         holds("1=2 or 1=2", false);
         holds("1=2 or 1=2 or 1=2 or 1=1", true);
         holds("1=1 or 1=1 and 1=2", true);
