@@ -211,7 +211,7 @@ public final class StrikeBench {
 
     public int worth(int side) throws IllegalArgumentException {
         needSide(side);
-        lookAhead();
+        seeField();
         return field.endWorth(side, 0);
     }
 
@@ -249,8 +249,8 @@ public final class StrikeBench {
     }
 
     public int states() {
-        lookAhead();
-        return ahead.howManyStates();
+        seeField();
+        return ahead.howManyStates(now.turnsLeft);
     }
 
     public int more(int side, boolean first) throws IllegalArgumentException {
@@ -298,7 +298,7 @@ public final class StrikeBench {
             throw new IllegalStateException("a side has too many turns left");
         }
         if (!atOnceIsNow) {
-            lookAhead();
+            seeField();
             atOnce.seek(field, ofFirst, ofSecond);
             atOnceIsNow = true;
         }
@@ -403,10 +403,17 @@ public final class StrikeBench {
         atOnceIsNow = false;
     }
 
+    /** The field may still be that of another game which was asked about. */
+    private void seeField() {
+        if (!aheadIsNow) {
+            field.take(now, NONE);
+        }
+    }
+
     /** Looking back over all states is dear, so it is done once for each state that is asked about. */
     private void lookAhead() {
         if (!aheadIsNow) {
-            field.take(now, NONE);
+            seeField();
             ahead.lookBack(now.turnsLeft, now.turnBits);
             aheadIsNow = true;
         }
@@ -862,7 +869,7 @@ public final class StrikeBench {
             return isFirst(CAUSE << number, place);
         }
 
-        boolean readAny(Clause clause, int nested) {
+        private boolean readAny(Clause clause, int nested) {
             if (!readEach(clause, nested)) {
                 return false;
             }
@@ -875,7 +882,7 @@ public final class StrikeBench {
             return true;
         }
 
-        boolean readEach(Clause clause, int nested) {
+        private boolean readEach(Clause clause, int nested) {
             if (!readOne(clause, nested)) {
                 return false;
             }
@@ -888,7 +895,7 @@ public final class StrikeBench {
             return true;
         }
 
-        boolean readOne(Clause clause, int nested) {
+        private boolean readOne(Clause clause, int nested) {
             skipBlanks();
             int start = at;
             boolean isNot = takeWord("not");
@@ -1093,11 +1100,15 @@ public final class StrikeBench {
 
     /** Best play on a field, found from the last turn back. */
     private static final class Lookahead {
+        static final int ACT_BITS = 4;
+        static final int ACT_MASK = 15;
+
         final Field field;
         // By who is struck; a turn's values take the place of the next turn's.
         final int[][] values;
         final int[] passed;
-        final byte[] acts;
+        // By who is struck; four bits for each turn (0: it passes, else the place and 1), so that an object stays small.
+        final long[] acts;
         final boolean[] reached;
         int turns;
         int bits;
@@ -1106,7 +1117,7 @@ public final class StrikeBench {
             field = new Field();
             values = new int[2][SETS_OF_ROW];
             passed = new int[2];
-            acts = new byte[(TURNS_MOST + 1) * SETS_OF_ROW];
+            acts = new long[SETS_OF_ROW];
             reached = new boolean[SETS_OF_ROW];
         }
 
@@ -1115,6 +1126,7 @@ public final class StrikeBench {
             bits = turnBits;
             int sets = 1 << field.size;
             for (int struck = 0; struck < sets; struck++) {
+                acts[struck] = 0;
                 if (Integer.bitCount(struck) <= turns) {
                     values[0][struck] = field.endWorth(0, struck);
                     values[1][struck] = field.endWorth(1, struck);
@@ -1152,7 +1164,12 @@ public final class StrikeBench {
             }
             mine[struck] = mine[bestAfter];
             theirs[struck] = theirs[bestAfter];
-            acts[turn * SETS_OF_ROW + struck] = (byte) bestAct;
+            acts[struck] |= (long) (bestAct + 1) << ACT_BITS * turn;
+        }
+
+        /** The place whom best play strikes; NONE: it passes. */
+        int actOf(int turn, int struck) {
+            return (int) (acts[struck] >> ACT_BITS * turn & ACT_MASK) - 1;
         }
 
         /** Whom best play strikes by number; NONE: it passes; NOBODY: there is no such turn. */
@@ -1160,7 +1177,7 @@ public final class StrikeBench {
             if (turn >= turns) {
                 return NOBODY;
             }
-            int act = acts[turn * SETS_OF_ROW + struck];
+            int act = actOf(turn, struck);
             return act == NONE ? NONE : field.numbers[act];
         }
 
@@ -1175,7 +1192,7 @@ public final class StrikeBench {
             for (int turn = 0; turn < turnCount && turn < turns; turn++) {
                 int side = bits >> turn & 1;
                 boolean isPlain = (plainSides >> side & 1) == 1;
-                int act = isPlain ? field.plainAct(side, struck) : acts[turn * SETS_OF_ROW + struck];
+                int act = isPlain ? field.plainAct(side, struck) : actOf(turn, struck);
                 if (act != NONE) {
                     struck |= 1 << act;
                 }
@@ -1183,13 +1200,13 @@ public final class StrikeBench {
             return struck;
         }
 
-        int howManyStates() {
+        int howManyStates(int turnCount) {
             for (int struck = 1; struck < SETS_OF_ROW; struck++) {
                 reached[struck] = false;
             }
             reached[0] = true;
             int found = 1;
-            for (int turn = 0; turn < turns; turn++) {
+            for (int turn = 0; turn < turnCount; turn++) {
                 found += reachOn();
             }
             return found;
