@@ -1,8 +1,14 @@
 import java.io.IOException;
+import java.lang.reflect.Field;
+import java.lang.reflect.Modifier;
 import java.nio.charset.StandardCharsets;
 import java.nio.file.Files;
 import java.nio.file.Path;
+import java.util.HashSet;
 import java.util.List;
+import java.util.Map;
+import java.util.Set;
+import java.util.TreeMap;
 import java.util.regex.Matcher;
 import java.util.regex.Pattern;
 
@@ -19,6 +25,10 @@ public final class LanguageTest {
     private static final String[] NEVER_CAUGHT = {"Throwable", "Exception", "RuntimeException", "NullPointerException",
         "IndexOutOfBoundsException", "ArrayIndexOutOfBoundsException", "ArithmeticException", "ClassCastException",
         "NegativeArraySizeException", "ArrayStoreException", "Error"};
+
+    /** By a method's name: its head, and the methods of the class that its body calls. */
+    private static final Map<String, String> HEADS = new TreeMap<>();
+    private static final Map<String, Set<String>> CALLS = new TreeMap<>();
 
     private LanguageTest() {
     }
@@ -41,6 +51,8 @@ public final class LanguageTest {
         thrown(code);
         staticFields(code);
         methods(code);
+        depth();
+        classes();
         Bench.end();
     }
 
@@ -78,10 +90,87 @@ public final class LanguageTest {
         while (found.find()) {
             methods++;
             int end = code.indexOf("\n" + found.group(1) + "}", found.end());
+            String body = code.substring(found.end(), end);
             long lines = code.substring(found.start(), end).lines().count();
+            String name = found.group().replaceAll("(?s)\\(.*", "").replaceAll(".* ", "");
+            HEADS.merge(name, found.group().strip(), (one, two) -> one + two);
+            Set<String> calls = CALLS.computeIfAbsent(name, any -> new HashSet<>());
+            Pattern.compile("\\b(\\w+)\\(").matcher(body).results().forEach(call -> calls.add(call.group(1)));
             Bench.holds("rule 11: lines of " + found.group().strip(), lines <= 60);
             Bench.holds("rule 11: parameters of " + found.group().strip(), found.group(2).split(",").length <= 7);
         }
         Bench.holds("the face alone has 26 methods", methods > 26);
+        for (Set<String> calls : CALLS.values()) {
+            calls.retainAll(HEADS.keySet());
+        }
+    }
+
+    private static void reach(String name, Set<String> reached) {
+        for (String called : CALLS.get(name)) {
+            if (reached.add(called)) {
+                reach(called, reached);
+            }
+        }
+    }
+
+    /** The methods of one recursion; the method alone, if it is in none. */
+    private static Set<String> recursionOf(String name) {
+        Set<String> reached = new HashSet<>();
+        reach(name, reached);
+        Set<String> together = new HashSet<>(Set.of(name));
+        for (String other : reached) {
+            Set<String> back = new HashSet<>();
+            reach(other, back);
+            if (back.contains(name)) {
+                together.add(other);
+            }
+        }
+        return together;
+    }
+
+    private static int depthOf(String name) {
+        Set<String> together = recursionOf(name);
+        int deepest = 0;
+        for (String one : together) {
+            for (String called : CALLS.get(one)) {
+                if (!together.contains(called)) {
+                    deepest = Math.max(deepest, depthOf(called));
+                }
+            }
+        }
+        return deepest + 1;
+    }
+
+    /** Rule 11: calls that are no recursion go eight deep; rule 8: recursion is private and is told how deep it is. */
+    private static void depth() {
+        int recursive = 0;
+        for (String name : HEADS.keySet()) {
+            Bench.holds("rule 11: " + name + " goes " + depthOf(name) + " deep", depthOf(name) <= 8);
+            Set<String> reached = new HashSet<>();
+            reach(name, reached);
+            if (reached.contains(name)) {
+                recursive++;
+                Bench.holds("rule 8: " + HEADS.get(name), HEADS.get(name).matches("private .*\\bint nested\\).*"));
+            }
+        }
+        Bench.holds("conditions are read by recursion", recursive > 0);
+    }
+
+    /** Rule 11: some twelve classes, some twenty fields in each. */
+    private static void classes() {
+        Class<?>[] inside = StrikeBench.class.getDeclaredClasses();
+        Bench.holds("rule 11: " + inside.length + " classes inside", inside.length + 1 <= 12);
+        fields(StrikeBench.class);
+        for (Class<?> one : inside) {
+            fields(one);
+        }
+    }
+
+    private static void fields(Class<?> one) {
+        int fields = 0;
+        for (Field field : one.getDeclaredFields()) {
+            fields += Modifier.isStatic(field.getModifiers()) ? 0 : 1;
+        }
+        Bench.holds("rule 11: " + one + " has " + fields + " fields", fields <= 20);
     }
 }
